@@ -108,7 +108,11 @@ public final class WarabandiDesk {
         if (n < 0 || n > reader.held) {
             return BAD_NUMBER;
         }
-        int lines = reader.readText(n);
+        reader.open(n);
+        int lines = 0;
+        for (; lines < MAX_TAPE && reader.hasMore(); lines++) {
+            reader.readLine();
+        }
         if (reader.wrong != 0) {
             return BAD_TEXT - reader.wrong;
         }
@@ -501,6 +505,7 @@ public final class WarabandiDesk {
         }
         openSeason();
         int level = told.stores[field];
+        season.reckonTo(week);
         for (int w = 0; w <= week; w++) {
             level = Math.max(soilBehind(w, field, level), 0);
         }
@@ -518,6 +523,7 @@ public final class WarabandiDesk {
         int level = told.stores[field];
         int times = 0;
         int earliest = NONE;
+        season.reckonTo(week);
         for (int w = 0; w <= week; w++) {
             level = soilBehind(w, field, level);
             if (level < 0) {
@@ -577,6 +583,7 @@ public final class WarabandiDesk {
     private boolean staysMoist(int week) {
         System.arraycopy(told.stores, 0, scratch, 0, MAX_FIELDS);
         for (int w = 0; w <= week; w++) {
+            season.reckonTo(w);
             for (int f = 0; f < told.fields; f++) {
                 scratch[f] = soilBehind(w, f, scratch[f]);
                 if (scratch[f] < 0) {
@@ -695,6 +702,7 @@ public final class WarabandiDesk {
         }
         openSeason();
         int sum = 0;
+        season.reckonTo(to);
         for (int w = from; w <= to; w++) {
             sum += season.nightIn(w, field);
         }
@@ -794,6 +802,7 @@ public final class WarabandiDesk {
     /** By how much the most night of a field in the weeks below n is above the least, by another BY. */
     private int nightSpread(int n, int by) {
         season.open(by);
+        season.reckonTo(n - 1);
         int most = 0;
         int least = 0;
         for (int f = 0; f < told.fields; f++) {
@@ -1111,25 +1120,22 @@ public final class WarabandiDesk {
             }
         }
 
-        /** Reads the first n bytes into the draft and empties THE TAPE: how many lines. */
-        int readText(int n) {
-            end = Math.min(n, MAX_TAPE);
+        /** Takes the first n bytes as a text to be read into the draft, and empties THE TAPE. */
+        void open(int n) {
+            end = Math.min(n, held);
             spot = 0;
             held = 0;
             wrong = 0;
             wrongAt = NONE;
             draft.clear();
-            for (int lines = 0; lines <= MAX_TAPE; lines++) {
-                skipBlanks();
-                if (wrong != 0 || spot >= end) {
-                    return lines;
-                }
-                readLine();
-            }
-            return NONE;
         }
 
-        private void readLine() {
+        boolean hasMore() {
+            skipBlanks();
+            return wrong == 0 && spot < end;
+        }
+
+        void readLine() {
             readWord();
             switch (wordKind()) {
                 case WORD_REACH:
@@ -1185,7 +1191,7 @@ public final class WarabandiDesk {
         }
 
         private void readCrop() {
-            int f = readKnownField();
+            int f = readKnownField(NONE);
             int store = readNumber(0, MAX_STORE);
             int use = readNumber(0, MAX_STORE);
             if (wrong == 0 && !draft.lacksField(f)) {
@@ -1197,8 +1203,8 @@ public final class WarabandiDesk {
         private void readSwap() {
             refuseIfFull(draft.swaps);
             int week = readNumber(0, WEEKS - 1);
-            int one = readKnownField();
-            int other = readOtherField(one);
+            int one = readKnownField(NONE);
+            int other = readKnownField(one);
             if (wrong == 0) {
                 draft.swaps.addRow(week, one, other, 0);
             }
@@ -1207,8 +1213,8 @@ public final class WarabandiDesk {
         private void readLend() {
             refuseIfFull(draft.lends);
             int week = readNumber(0, WEEKS - 1);
-            int one = readKnownField();
-            int other = readOtherField(one);
+            int one = readKnownField(NONE);
+            int other = readKnownField(one);
             int minutes = readNumber(1, MAX_LENT);
             if (wrong == 0) {
                 draft.lends.addRow(week, one, other, minutes);
@@ -1305,17 +1311,10 @@ public final class WarabandiDesk {
             return name;
         }
 
-        private int readKnownField() {
+        /** Reads the name of a field told ahead, other than one (or NONE). */
+        private int readKnownField(int unlike) {
             int f = draft.fieldNamed(readName());
-            if (f == NONE) {
-                refuse(WRONG_NAME, wordAt);
-            }
-            return f;
-        }
-
-        private int readOtherField(int one) {
-            int f = readKnownField();
-            if (f == one) {
+            if (f == NONE || f == unlike) {
                 refuse(WRONG_NAME, wordAt);
             }
             return f;
@@ -1647,19 +1646,14 @@ public final class WarabandiDesk {
 
         private void passLends() {
             for (int k = 0; k < told.lends.held; k++) {
-                if (told.lends.cell(k, ROW_WEEK) == week) {
-                    passLend(k, told.lends.cell(k, ROW_MINUTES));
+                int giver = told.lends.cell(k, ROW_ONE);
+                int minutes = told.lends.cell(k, ROW_MINUTES);
+                boolean isHere = told.lends.cell(k, ROW_WEEK) == week;
+                if (isHere && lengths[giver] - fills[giver] >= minutes) {
+                    lengths[giver] -= minutes;
+                    lengths[told.lends.cell(k, ROW_OTHER)] += minutes;
+                    lentBits |= 1 << k;
                 }
-            }
-        }
-
-        private void passLend(int k, int minutes) {
-            int giver = told.lends.cell(k, ROW_ONE);
-            int taker = told.lends.cell(k, ROW_OTHER);
-            if (lengths[giver] - fills[giver] >= minutes) {
-                lengths[giver] -= minutes;
-                lengths[taker] += minutes;
-                lentBits |= 1 << k;
             }
         }
 
@@ -1822,13 +1816,20 @@ public final class WarabandiDesk {
             reckoned = 0;
         }
 
+        /** Reckons the weeks up to one that are not yet; only of these the others may be asked. */
+        void reckonTo(int week) {
+            for (; reckoned <= week && reckoned < WEEKS; reckoned++) {
+                if (alike[reckoned] == reckoned) {
+                    reckonOne(reckoned);
+                }
+            }
+        }
+
         int gainedIn(int week, int f) {
-            reckonTo(week);
             return gained[alike[week] * MAX_FIELDS + f];
         }
 
         int nightIn(int week, int f) {
-            reckonTo(week);
             return dark[alike[week] * MAX_FIELDS + f];
         }
 
@@ -1845,14 +1846,6 @@ public final class WarabandiDesk {
                 plainWeeks[front] = week;
             }
             return plainWeeks[front];
-        }
-
-        private void reckonTo(int week) {
-            for (; reckoned <= week && reckoned < WEEKS; reckoned++) {
-                if (alike[reckoned] == reckoned) {
-                    reckonOne(reckoned);
-                }
-            }
         }
 
         private void reckonOne(int week) {
@@ -1954,24 +1947,26 @@ public final class WarabandiDesk {
             Arrays.fill(best, NONE);
             leastNight = NONE;
             fewestCouples = 0;
-            coupleFrom(0, 0);
+            coupleFrom(this, 0, 0);
         }
 
         /**
          * Tries all ways for the fields from one on, those that come first by the document first,
-         * so that of like ones the first one found is kept.
+         * so that of like ones the first one found is kept. It goes one deeper for each field.
          */
-        private void coupleFrom(int f, int couples) {
-            if (f >= told.fields) {
-                tryMates(couples);
+        private static void coupleFrom(Matcher all, int f, int couples) {
+            int fields = all.told.fields;
+            int[] mates = all.mates;
+            if (f >= fields) {
+                all.tryMates(couples);
                 return;
             }
-            coupleFrom(f + 1, couples);
-            for (int g = f + 1; g < told.fields && mates[f] == NONE; g++) {
+            coupleFrom(all, f + 1, couples);
+            for (int g = f + 1; g < fields && mates[f] == NONE; g++) {
                 if (mates[g] == NONE) {
                     mates[f] = g;
                     mates[g] = f;
-                    coupleFrom(f + 1, couples + 1);
+                    coupleFrom(all, f + 1, couples + 1);
                     mates[f] = NONE;
                     mates[g] = NONE;
                 }
