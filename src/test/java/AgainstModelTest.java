@@ -4,7 +4,7 @@ import java.util.Random;
 
 /** Long runs of calls, made up by a fixed seed, held against the plain model of the document. */
 public final class AgainstModelTest {
-    private static final int RUNS = 160;
+    private static final int RUNS = 40;
     private static final int CALLS = 400;
     private static final String[] NAMES = {"a", "b", "ab", "reaches", "zzzzzzzz", "flo", "mill", "q"};
 
