@@ -103,6 +103,10 @@ public final class BestTest {
         x = Check.desk(HALVES + "night 0 12;swap 1 a b;");
         Check.due("even(2, 0)", x.even(2, 0), 0);
         Check.due("even(2, 1)", x.even(2, 1), 0);
+        // minutes 2520, 2520, 5040: the least is b's, 360 of 720, 360, 1440; then a's, 360 of 360, 720, 1440
+        String three = "reach 0 0 0;field a 0 1;field b 0 1;field c 0 2;";
+        Check.due("even(1, 1)", Check.desk(three + "night 12 18;").even(1, 1), 1080);
+        Check.due("even(1, 1)", Check.desk(three + "night 18 0;").even(1, 1), 1080);
         x = new WarabandiDesk();
         Check.due("even(1, 0) without a field", x.even(1, 0), -5);
         Check.due("even(53, 0) without a field", x.even(53, 0), -3);
@@ -130,6 +134,12 @@ public final class BestTest {
         }
         Check.due("partners(1, 0) with all swaps told", x.partners(1, 0), 4);
         Check.due("count(2)", x.count(2), 12);
+        // minutes 720, 6480, 1440, 1440: c and d have one hour wherever they are, and a has none behind
+        x = Check.desk("reach 0 0 0;field a 0 1;field b 0 9;field c 0 2;field d 0 2;night 0 1;");
+        Check.due("partners(0, 0)", x.partners(0, 0), 12);
+        Check.due("partners(0, 0) again", x.partners(0, 0), 12);
+        x = Check.desk("reach 0 0 0;field c 0 2;field b 0 9;field d 0 2;field a 0 1;night 0 1;swap 0 a c;");
+        Check.due("partners(0, 3)", x.partners(0, 3), 5);
         x = Check.desk(FAILS + "rotate 1 1;");
         Check.due("partners(0, 0) of a week that fails", x.partners(0, 0), -6);
         Check.due("partners(1, 0) by which it would fail", x.partners(1, 0), 0);
@@ -185,6 +195,14 @@ public final class BestTest {
         Check.due("inTurn(1, 3, 7)", x.inTurn(1, 3, 7), 7 * 60);
         Check.due("roster(1, 0)", x.roster(1, 0), 3);
         matchedAre(x, 1, 6 * 60, -1, -1, 3, 2);
+        // minutes 3528, 2016, 3528, 1008: only by b a d c each one has two nights at most
+        x = Check.desk("reach 0 0 0;field a 0 7;field b 0 4;field c 0 7;field d 0 2;night 4 9;");
+        matchedAre(x, 0, 600, 1, 0, 3, 2);
+        // minutes 3600, 2880, 1440, 2160: by d b c a and by c d a b two nights at most; the fewest couples count
+        x = Check.desk("reach 0 0 0;field a 0 5;field b 0 4;field c 0 2;field d 0 3;night 8 10;");
+        matchedAre(x, 0, 240, 3, -1, -1, 0);
+        x = Check.desk("reach 0 0 0;field a 0 1;field b 0 2;field c 0 4;field d 0 9;night 17 21;");
+        matchedAre(x, 0, 900, 2, 3, 0, 1);
     }
 
     private static void nights() {
@@ -247,6 +265,9 @@ public final class BestTest {
         Check.due("fairest(-1)", x.fairest(-1), -3);
         x.turn(2, 0);
         Check.due("fairest(1) not turned yet", x.fairest(1), 0);
+        // the end is shut: with b ahead a gets 5 minutes only
+        x = Check.desk(TWO + "shut 1 5080 10080;");
+        Check.due("fairest(1)", x.fairest(1), 2549 * 44 / 300);
         x = Check.desk(FAILS);
         Check.due("fairest(0) of a week that fails", x.fairest(0), 0);
         // turned by 1 it does not fail: a has 10130 minutes times 60 by 999
@@ -306,6 +327,8 @@ public final class BestTest {
         Check.due("settles(2)", x.settles(2), 0);
         Check.due("settles(3)", x.settles(3), 1);
         Check.due("settles(5)", x.settles(5), 2);
+        Check.due("settles(5) again", x.settles(5), 2);
+        Check.due("settles(2) again", x.settles(2), 0);
         Check.due("settles(52)", x.settles(52), -3);
         Check.due("settles(-1)", x.settles(-1), -3);
         x.lend(6, 4, 5, 999);

@@ -14,7 +14,9 @@ public final class HandTest {
         mode();
         land();
         undoKinds();
+        undoOneOfMany();
         undoTen();
+        undoTenMixed();
         undoForgets();
         Check.end();
     }
@@ -232,6 +234,60 @@ public final class HandTest {
         x.undo();
         Check.due("setting(4)", x.setting(4), 52);
         Check.due("setting(5)", x.setting(5), 7);
+    }
+
+    private static void undoOneOfMany() {
+        Check.about("promise 14, one of many");
+        WarabandiDesk x = Check.desk(FOUR + "swap 0 a b;lend 0 a b 1;shut 0 1 2;");
+        x.swap(1, 0, 1);
+        x.swap(1, 2, 3);
+        x.undo();
+        Check.due("count(2)", x.count(2), 2);
+        Check.due("roster(1, 2)", x.roster(1, 2), 2);
+        Check.due("roster(1, 0)", x.roster(1, 0), 1);
+        x.lend(1, 0, 1, 1);
+        x.lend(1, 0, 1, 2);
+        x.undo();
+        Check.due("count(3)", x.count(3), 2);
+        Check.due("balance(51, 0, 1)", x.balance(51, 0, 1), 100002);
+        x.shut(1, 0, 1);
+        x.shut(1, 0, 2);
+        x.undo();
+        Check.due("count(4)", x.count(4), 2);
+        Check.due("count(8)", x.count(8), 3);
+    }
+
+    private static void undoTenMixed() {
+        Check.about("promise 14, the latest ten of all kinds");
+        WarabandiDesk x = Check.desk(FOUR);
+        x.flow(7);
+        x.line(1);
+        x.land(3, 77);
+        x.land(0, 50);
+        x.mode(1);
+        x.turn(5, 6);
+        x.move(0, 3);
+        x.swap(2, 0, 1);
+        x.flow(8);
+        x.line(0);
+        x.lend(2, 0, 1, 5);
+        x.move(2, 0);
+        x.shut(2, 5, 6);
+        for (int k = 9; k >= 0; k--) {
+            Check.due("undo()", x.undo(), k);
+        }
+        Check.due("undo()", x.undo(), -5);
+        Check.due("setting(0)", x.setting(0), 7);
+        Check.due("setting(4)", x.setting(4), 1);
+        Check.due("setting(6)", x.setting(6), 0);
+        Check.due("reach(0, 2)", x.reach(0, 2), 3);
+        Check.due("reach(1, 2)", x.reach(1, 2), 0);
+        Check.due("field(3, 1)", x.field(3, 1), 77);
+        Check.due("field(0, 1)", x.field(0, 1), 5);
+        for (int what = 2; what <= 4; what++) {
+            Check.due("count(" + what + ")", x.count(what), 0);
+        }
+        orderIs(x, 0, 1, 2, 3);
     }
 
     private static void undoTen() {

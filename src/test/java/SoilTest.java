@@ -11,6 +11,7 @@ public final class SoilTest {
         first();
         soil();
         dry();
+        dryAgain();
         failingWeeks();
         tail();
         leastFlow();
@@ -99,6 +100,19 @@ public final class SoilTest {
         Check.due("dry(-1, 0, 1)", x.dry(-1, 0, 1), -3);
     }
 
+    private static void dryAgain() {
+        Check.about("promise 32, dry and again");
+        // DEPTH 403 as a rule; nothing in week 1: dry; just enough in week 2; 402 in week 3: dry
+        WarabandiDesk x = Check.desk(ALONE + "flow 4;crop a 500 403;shut 1 0 10080;shut 3 0 10;");
+        int[] soils = {97, 0, 0, 0, 0};
+        int[] times = {0, 1, 1, 2, 2};
+        for (int w = 0; w < soils.length; w++) {
+            Check.due("soil(" + w + ", 0)", x.soil(w, 0), soils[w]);
+            Check.due("dry(" + w + ", 0, 0)", x.dry(w, 0, 0), times[w]);
+        }
+        Check.due("dry(51, 0, 1)", x.dry(51, 0, 1), 1);
+    }
+
     private static void failingWeeks() {
         Check.about("promises 31 and 32, weeks that fail");
         // b gets 10 of 60 minutes and its SHARE of them in each other week; 600 DEPTH; in the others nothing
@@ -130,6 +144,11 @@ public final class SoilTest {
         x = new WarabandiDesk();
         Check.due("tail(0) without a field", x.tail(0), -1);
         Check.due("tail(52) without a field", x.tail(52), -3);
+        // 1260 minutes of 1 by 999 are a DEPTH of 1
+        x = Check.desk("reach 0 0 0;reach 0 0 0;field a 0 999;field b 1 999;field c 0 999;field d 0 999;field e 0 999;"
+                + "field f 0 999;field g 0 999;field h 0 999;flow 1;");
+        Check.due("depth(0, 0)", x.depth(0, 0), 1);
+        Check.due("tail(0)", x.tail(0), 1000);
         // of like ones the least: a is HEAD, not c; b is TAIL, not d
         x = Check.desk("reach 0 0 0;reach 0 0 500;field a 0 100;field b 1 100;field c 0 100;field d 1 100;shut 0 5000 10080;");
         Check.due("tail(0)", x.tail(0), 2480 * 30 / 100 * 1000 / (2520 * 60 / 100));
@@ -157,6 +176,9 @@ public final class SoilTest {
         Check.due("leastFlow(1)", x.leastFlow(1), 990);
         x.shut(1, 0, 200);
         Check.due("leastFlow(1) by none", x.leastFlow(1), -1);
+        // 9999 minutes by 999: all of the greatest flow
+        x = Check.desk("reach 0 0 0;field a 0 999;crop a 9999 9999;shut 1 0 81;");
+        Check.due("leastFlow(1)", x.leastFlow(1), 999);
         x = Check.desk("reach 1 1 1;");
         Check.due("leastFlow(0) without a field", x.leastFlow(0), -5);
         Check.due("leastFlow(52) without a field", x.leastFlow(52), -3);

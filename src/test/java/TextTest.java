@@ -94,7 +94,8 @@ public final class TextTest {
         fine("reach 1 2 3;field a0 5;", 2);
         fine("reach 1 2 3;field reacher0 5;crop reacher1 1;", 3);
         fine(FARMS + "swap0a b;lend1b a9;shut2 3 4;", 6);
-        fine("flow 00001;start 00000;", 2);
+        fine("flow 00001;start 00000;rotate 1 0;night 0 0;mode 0;", 5);
+        fine("reach 0 0 0;field beach 0 5;field yield 0 5;field lendx 0 5;field shu 0 5;", 5);
         WarabandiDesk x = Check.desk("reach 1 2 3;field az0 5;crop az7 8;");
         Check.due("name(0, -1)", x.name(0, -1), 2);
         Check.due("field(0, 1)", x.field(0, 1), 5);
@@ -121,6 +122,16 @@ public final class TextTest {
         Check.due("count(2)", x.count(2), 1);
         Check.due("count(3)", x.count(3), 2);
         Check.due("count(4)", x.count(4), 2);
+        StringBuilder ten = new StringBuilder();
+        for (int r = 0; r < 10; r++) {
+            ten.append("reach ").append(50 - r).append(' ').append(10 + r).append(' ').append(r).append(';');
+        }
+        x = Check.desk(ten.toString());
+        for (int r = 0; r < 10; r++) {
+            Check.due("reach(" + r + ", 0)", x.reach(r, 0), 50 - r);
+            Check.due("reach(" + r + ", 1)", x.reach(r, 1), 10 + r);
+            Check.due("reach(" + r + ", 2)", x.reach(r, 2), r);
+        }
     }
 
     private static void latestCounts() {
@@ -191,6 +202,7 @@ public final class TextTest {
         wrong("reac 1 2 3;", 1, 0);
         wrong("Reach 1 2 3;", 1, 0);
         wrong("each 1 2 3;", 1, 0);
+        wrong("beach 1 2 3;", 1, 0);
         wrong("h 1 2 3;", 1, 0);
         wrong("reach 1 2;", 1, 9);
         wrong("reach 1 2 3 4;", 1, 12);

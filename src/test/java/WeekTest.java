@@ -93,6 +93,9 @@ public final class WeekTest {
         x = Check.desk("reach 10 5 0;reach 20 6 0;field a 1 9;");
         turnsAre(x, 0, 1, 30);
         turnsAre(x, 0, 2, 11);
+        x = Check.desk("reach 1 2 0;".repeat(8) + "reach 10 20 0;reach 40 50 0;field a 9 9;field b 8 9;");
+        turnsAre(x, 0, 1, 58, 0);
+        turnsAre(x, 0, 2, 50, 36);
         x = Check.desk("reach 10 5 0;reach 20 6 0;field a 1 9;field b 1 9;");
         turnsAre(x, 0, 1, 30, 0);
         turnsAre(x, 0, 2, 0, 11);
@@ -161,6 +164,11 @@ public final class WeekTest {
         turnsAre(x, 0, 9, 2510, 5012, 2498);
         turnsAre(x, 0, 8, 10, 50, 0);
         turnsAre(x, 0, 5, 2520, 5062, 2498);
+        // one within the other, and told the other way round
+        turnsAre(Check.desk(TRIO + "shut 0 100 500;shut 0 200 300;"), 0, 9, 400, 0, 0);
+        turnsAre(Check.desk(TRIO + "shut 0 200 300;shut 0 100 500;"), 0, 9, 400, 0, 0);
+        turnsAre(Check.desk(TRIO + "shut 0 700 800;shut 0 200 300;shut 0 100 500;"), 0, 9, 500, 0, 0);
+        turnsAre(Check.desk(TRIO + "shut 0 100 500;shut 0 100 200;shut 0 100 600;"), 0, 9, 500, 0, 0);
     }
 
     private static void lends() {
@@ -253,6 +261,10 @@ public final class WeekTest {
         turnsAre(x, 1, 4, 10070, 10);
         Check.due("inTurn(0, 0, 10)", x.inTurn(0, 0, 10), -2);
         Check.due("fails(0) without a field", new WarabandiDesk().fails(0), 0);
+        x = Check.desk("reach 0 60 0;field b 0 1;field a 0 999;");
+        Check.due("fails(0) with b ahead", x.fails(0), 0);
+        x.swap(0, 0, 1);
+        Check.due("fails(0) with b behind", x.fails(0), 1);
         // a TURN of just 0 does not fail: 10140 by 169 is 60
         x = Check.desk("reach 0 60 0;field a 0 168;field b 0 1;");
         Check.due("fails(0)", x.fails(0), 0);
@@ -283,7 +295,10 @@ public final class WeekTest {
 
     private static void water() {
         Check.about("promises 25 and 26");
-        WarabandiDesk x = Check.desk(TWO);
+        WarabandiDesk x = Check.desk(TWO + "lend 3 b a 200;");
+        Check.due("all(3)", x.all(3), 2716 * 54 + 7349 * 44);
+        Check.due("all(2)", x.all(2), 2516 * 54 + 7549 * 44);
+        x = Check.desk(TWO);
         Check.due("water(0, 0)", x.water(0, 0), 2516 * 54);
         Check.due("water(0, 1)", x.water(0, 1), 7549 * 44);
         Check.due("all(0)", x.all(0), 2516 * 54 + 7549 * 44);
@@ -337,6 +352,9 @@ public final class WeekTest {
         Check.due("at(10090, 0)", x.at(10090, 0), 0);
         x = Check.desk("reach 1 1 1;shut 0 0 5;");
         Check.due("at(0, 2) without a field", x.at(0, 2), -1);
+        x = Check.desk("reach 0 0 0;field a 0 5;");
+        Check.due("at(0, 0) of one field", x.at(0, 0), 0);
+        Check.due("at(10079, 0) of one field", x.at(10079, 0), 0);
         x = Check.desk(TRIO + "night 5 7;");
         Check.due("at(299, 3)", x.at(299, 3), 0);
         Check.due("at(300, 3)", x.at(300, 3), 1);
@@ -371,5 +389,6 @@ public final class WeekTest {
         Check.due("when(0, 0) of a week that fails", x.when(0, 0), 10090);
         Check.due("when(1, 0) of a week that fails", x.when(1, 0), 10080);
         Check.due("when(0, 0) if all fail", Check.desk(FAILS).when(0, 0), -1);
+        Check.due("when(0, 0) at once", Check.desk("reach 0 0 0;field a 0 5;").when(0, 0), 0);
     }
 }
