@@ -171,6 +171,7 @@ public final class BestTest {
         Check.due("matched(52, 3)", x.matched(52, 3), -2);
         Check.due("matched(52, 0)", x.matched(52, 0), -3);
         Check.due("matched(-1, -1)", x.matched(-1, -1), -3);
+        matchedAre(Check.desk(HALVES + "night 5 5;"), 0, 0, -1, -1);
         x = Check.desk(FAILS + "rotate 1 1;");
         Check.due("matched(0, 0) of a week that fails", x.matched(0, 0), -6);
         Check.due("matched(0, -1) of a week that fails", x.matched(0, -1), -6);

@@ -16,6 +16,7 @@ public final class TextTest {
         wrongNames();
         oneTooMany();
         firstFault();
+        firstBytesAlone();
         fault();
         Check.end();
     }
@@ -316,6 +317,34 @@ public final class TextTest {
         wrong(FARMS + "swap 52 c c;", 2, 41);
         // the first eight letters are those of a field, but it has nine
         wrong(REACH + "field zzzzzzzz 0 1;crop zzzzzzzzz 0 1;", 1, 36);
+    }
+
+    /** What is on the tape behind the first n bytes is no part of the text. */
+    private static void firstBytesAlone() {
+        Check.about("promise 3, the first n bytes");
+        String text = "reach 12 34 56; field ab 0 789;crop ab 123 45;  mode1;";
+        for (int n = 0; n <= text.length(); n++) {
+            WarabandiDesk cut = new WarabandiDesk();
+            WarabandiDesk whole = new WarabandiDesk();
+            int due = Check.tell(cut, text.substring(0, n));
+            for (int[] row : Check.feeds(text)) {
+                whole.feed(row[0], row[1], row[2], row[3], row[4]);
+            }
+            Check.due("tell(" + n + ")", whole.tell(n), due);
+            Check.due("fault(0) of " + n, whole.fault(0), cut.fault(0));
+            Check.due("fault(1) of " + n, whole.fault(1), cut.fault(1));
+        }
+        Check.due("lines", Check.tell(new WarabandiDesk(), text), 4);
+        WarabandiDesk x = new WarabandiDesk();
+        x.feed(0x666c6f77, 0x2035373b, 0, 0, 0);
+        Check.due("tell(6) of \"flow 57;\"", x.tell(6), -31);
+        Check.due("fault(1)", x.fault(1), 6);
+        x.feed(0x666c6f77, 0x2035373b, 0, 0, 0);
+        Check.due("tell(7) of \"flow 57;\"", x.tell(7), -31);
+        Check.due("fault(1)", x.fault(1), 7);
+        x.feed(0x666c6f77, 0x2035373b, 0, 0, 0);
+        Check.due("tell(3) of \"flow 57;\"", x.tell(3), -31);
+        Check.due("fault(1)", x.fault(1), 0);
     }
 
     private static void fault() {
