@@ -1954,19 +1954,19 @@ public final class WarabandiDesk {
          * Tries all ways for the fields from one on, those that come first by the document first,
          * so that of like ones the first one found is kept. It goes one deeper for each field.
          */
-        private static void coupleFrom(Matcher all, int f, int couples) {
-            int fields = all.told.fields;
-            int[] mates = all.mates;
+        private static void coupleFrom(Matcher matcher, int f, int couples) {
+            int fields = matcher.told.fields;
+            int[] mates = matcher.mates;
             if (f >= fields) {
-                all.tryMates(couples);
+                matcher.tryMates(couples);
                 return;
             }
-            coupleFrom(all, f + 1, couples);
+            coupleFrom(matcher, f + 1, couples);
             for (int g = f + 1; g < fields && mates[f] == NONE; g++) {
                 if (mates[g] == NONE) {
                     mates[f] = g;
                     mates[g] = f;
-                    coupleFrom(all, f + 1, couples + 1);
+                    coupleFrom(matcher, f + 1, couples + 1);
                     mates[f] = NONE;
                     mates[g] = NONE;
                 }
