@@ -9,6 +9,11 @@ final class Check {
         topic = what;
     }
 
+    /** Names the place in the document and the sentence whose boundary the next answers are about. */
+    static void says(String where, String sentence) {
+        about(where + ", \"" + sentence + "\"");
+    }
+
     static void due(String call, long got, long want) {
         if (got != want) {
             wrong++;
