@@ -4,8 +4,9 @@ import java.util.Random;
 
 /** Long runs of calls, made up by a fixed seed, held against the plain model of the document. */
 public final class AgainstModelTest {
-    private static final int RUNS = 40;
-    private static final int CALLS = 400;
+    private static final int RUNS = 60;
+    /** An object is promised for 512 calls alone, and a text may take some sixty more. */
+    private static final int CALLS = 450;
     private static final String[] NAMES = {"a", "b", "ab", "reaches", "zzzzzzzz", "flo", "mill", "q"};
 
     private final Random random;
@@ -31,7 +32,7 @@ public final class AgainstModelTest {
         if (run % 8 != 7) {
             tellText(run % 3 == 0);
         }
-        for (int k = 0; k < CALLS && Check.wrongs() == 0; k++) {
+        while (calls.size() < CALLS && Check.wrongs() == 0) {
             int kind = random.nextInt(100);
             if (kind < 2) {
                 tellText(random.nextInt(3) == 0);

@@ -137,6 +137,13 @@ public final class BoundsAskTest {
             x.lend(0, 2, 0, 1);
         }
         Check.due("isVoid(11)", x.isVoid(11), 0);
+        // as all is then: with less LAND a can't lend as much
+        WarabandiDesk y = Check.desk(HALVES + "lend 0 a b 999;");
+        Check.due("isVoid(0)", y.isVoid(0), 0);
+        y.land(1, 999);
+        Check.due("isVoid(0) by less LAND", y.isVoid(0), 1);
+        y.undo();
+        Check.due("isVoid(0) again", y.isVoid(0), 0);
         Check.says("Promise 24", "NONE: not so many; -3: k is below 0; -6: its WEEK.");
         Check.due("isVoid(12)", x.isVoid(12), -1);
         Check.due("isVoid(MAX)", x.isVoid(MAX), -1);
@@ -166,6 +173,8 @@ public final class BoundsAskTest {
         Check.due("all(51)", x.all(51), 5039L * 999);
         Check.due("all(52)", x.all(52), -3);
         Check.due("all(-1)", x.all(-1), -3);
+        x = Check.desk("reach 0 0 0;field a 0 1;field b 0 2;field c 0 3;field d 0 4;field e 0 5;field f 0 6;field g 0 7;field h 0 8;");
+        Check.due("all(0) of eight", x.all(0), 10080 * 60);
         Check.due("all(0) without a FIELD", Check.desk(NO_FIELD).all(0), 0);
         Check.due("all(0) of a WEEK that FAILS", Check.desk(FAILS).all(0), 0);
     }
@@ -340,6 +349,10 @@ public final class BoundsAskTest {
         Check.due("tail(1) by 9", x.tail(1), 50349L * 1000 / 9);
         Check.due("tail(51)", x.tail(51), 1000);
         Check.due("tail(52)", x.tail(52), -3);
+        // of HEAD 101 minutes of 1 by 100 are 1, but 99 are 0; of TAIL 5040 are 50
+        x = Check.desk("reach 0 0 0;reach 0 0 0;field a 0 100;field b 1 100;shut 0 0 4939;shut 1 0 4941;flow 1;");
+        Check.due("tail(0) by 1", x.tail(0), 50000);
+        Check.due("tail(1) by 99 minutes of 100", x.tail(1), -1);
         Check.due("tail(-1)", x.tail(-1), -3);
         Check.due("tail(0) without a FIELD", Check.desk(NO_FIELD).tail(0), -1);
         Check.due("tail(0) of a WEEK that FAILS", Check.desk(FAILS).tail(0), -1);
@@ -362,7 +375,22 @@ public final class BoundsAskTest {
         x = Check.desk(ALONE + "crop a 151 101;");
         Check.due("leastFlow(50)", x.leastFlow(50), 1);
         Check.due("leastFlow(51)", x.leastFlow(51), 2);
-        // of all FIELDS
+        // by what arrives, the minutes depend on FLOW, too
+        x = Check.desk("reach 0 0 100;reach 0 0 200;field a 0 100;field b 1 100;crop a 9999 2;crop b 9999 900;mode 1;");
+        int least = x.leastFlow(51);
+        x.flow(least);
+        Check.due("dry(51, 1, 0) by leastFlow(51)", x.dry(51, 1, 0) + x.dry(51, 0, 0), 0);
+        x.flow(least - 1);
+        Check.due("dry(51, 1, 0) by one less", x.dry(51, 1, 0) + x.dry(51, 0, 0) > 0 ? 1 : 0, 1);
+        x.mode(0);
+        Check.due("leastFlow(51) by land is more", x.leastFlow(51) > least ? 1 : 0, 1);
+        // of all FIELDS: eight of them, 1260 minutes by 9 tenths are 140 a FLOW; the last one needs most
+        StringBuilder eight = new StringBuilder("reach 0 0 0;");
+        for (int f = 0; f < 8; f++) {
+            char c = (char) ('a' + f);
+            eight.append("field ").append(c).append(" 0 9;crop ").append(c).append(" 9999 ").append(f == 7 ? 9999 : 140 * f).append(';');
+        }
+        Check.due("leastFlow(51) of eight", Check.desk(eight.toString()).leastFlow(51), 72);
         x = Check.desk(HALVES + "crop a 1008 1008;crop b 2016 2016;");
         Check.due("leastFlow(1)", x.leastFlow(1), 4);
     }

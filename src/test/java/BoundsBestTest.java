@@ -88,6 +88,9 @@ public final class BoundsBestTest {
     private static void orderOfLikeOnes() {
         Check.says("Promise 36", "of like ones the first by FIELDS: the FIELD at a place (from 0 on); place NONE: NET.");
         orderIs(Check.desk(EIGHT), 10080, 0, 1, 2, 3, 4, 5, 6, 7);
+        // as much drains as FILLS, so all orders are alike
+        orderIs(Check.desk("reach 7 7 0;reach 9 9 0;field a 0 1;field b 1 1;field c 0 1;"), 10080, 0, 1, 2);
+        orderIs(Check.desk("reach 7 7 0;reach 9 9 0;field a 0 1;field b 0 1;field c 1 1;"), 10080, 0, 1, 2);
         // b d (NODE 0) and a c (NODE 1) in any way that fills REACH 1 once: a c ahead of b d is the first by FIELDS
         orderIs(Check.desk("reach 1 0 0;reach 2 0 0;field a 1 1;field b 0 1;field c 1 1;field d 0 1;"), 10077, 0, 2, 1, 3);
     }
@@ -159,6 +162,10 @@ public final class BoundsBestTest {
         Check.due("partners(0, 0): as much for c and d, more for b", x.partners(0, 0), 4 + 8);
         Check.due("partners(0, 1): not less", x.partners(0, 1), 0);
         Check.due("partners(0, 2): as much is not less", x.partners(0, 2), 0);
+        // FIELD 0, too; ROSTER a b d c
+        x = Check.desk("reach 0 0 0;field c 0 2;field b 0 9;field d 0 2;field a 0 1;night 0 1;swap 0 a c;");
+        Check.due("partners(0, 3)", x.partners(0, 3), 1 + 4);
+        Check.due("partners(0, 3) again", x.partners(0, 3), 1 + 4);
         // a SWAP more, though there are twelve
         x = Check.desk("reach 0 0 0;field a 0 1;field b 0 9;field c 0 2;field d 0 2;night 0 1;" + "swap 5 a b;".repeat(12));
         Check.due("partners(0, 0) with twelve SWAPS", x.partners(0, 0), 12);
@@ -225,6 +232,10 @@ public final class BoundsBestTest {
         for (int[] row : due) {
             Check.due("nights(" + row[0] + ", " + row[1] + ", 0)", x.nights(row[0], row[1], 0), row[2]);
         }
+        // a LEND is of its own WEEK
+        WarabandiDesk y = Check.desk(HALVES + "night 0 12;lend 51 a b 720;");
+        Check.due("nights(50, 50, 0)", y.nights(50, 50, 0), 2880);
+        Check.due("nights(51, 51, 0)", y.nights(51, 51, 0), 2160);
         Check.says("Promise 40", "-2; -3: a WEEK, the second one below the first.");
         Check.due("nights(1, 0, 0)", x.nights(1, 0, 0), -3);
         Check.due("nights(51, 50, 0)", x.nights(51, 50, 0), -3);
@@ -347,7 +358,10 @@ public final class BoundsBestTest {
         for (String[] row : rows) {
             Check.due("settles(51) of " + row[0], Check.desk(EIGHT + row[0]).settles(51), Integer.parseInt(row[1]));
         }
-        WarabandiDesk x = Check.desk(EIGHT + "lend 0 a b 5;lend 51 c d 5;");
+        WarabandiDesk x = Check.desk(EIGHT + "lend 0 a b 5;lend 1 b a 5;");
+        Check.due("settles(0) ahead of what is paid back", x.settles(0), 1);
+        Check.due("settles(1) behind what is paid back", x.settles(1), 0);
+        x = Check.desk(EIGHT + "lend 0 a b 5;lend 51 c d 5;");
         Check.due("settles(0)", x.settles(0), 1);
         Check.due("settles(50)", x.settles(50), 1);
         Check.due("settles(51)", x.settles(51), 2);

@@ -403,6 +403,28 @@ public final class BoundsHandTest {
         }
         Check.due("undo() of the eleventh", x.undo(), -5);
         Whole.same("behind ten of all kinds", x, () -> Check.desk(FOUR + "flow 7;"));
+        // each one of its own kind alone, and of these the latest
+        String some = FOUR + "swap 0 a b;swap 1 c d;lend 0 a b 5;lend 1 c d 6;shut 0 0 9;shut 1 0 7;";
+        for (int kind = 0; kind < 9; kind++) {
+            x = Check.desk(some);
+            actOf(x, kind);
+            Check.due("undo() of kind " + kind, x.undo(), 0);
+            Whole.same("behind an undo() of kind " + kind, x, () -> Check.desk(some));
+        }
+    }
+
+    private static void actOf(WarabandiDesk x, int kind) {
+        switch (kind) {
+            case 0 -> x.move(1, 3);
+            case 1 -> x.swap(1, 0, 1);
+            case 2 -> x.lend(1, 3, 0, 9);
+            case 3 -> x.shut(1, 20, 30);
+            case 4 -> x.line(1);
+            case 5 -> x.flow(999);
+            case 6 -> x.turn(52, 7);
+            case 7 -> x.mode(1);
+            default -> x.land(3, 999);
+        }
     }
 
     private static void field() {

@@ -79,6 +79,10 @@ public final class BoundsRefusedTest {
         Whole.same("behind " + call, x, make);
     }
 
+    private static void busyRefuses(String call, long code, Call run) {
+        refused(BoundsRefusedTest::busy, call, code, run);
+    }
+
     private static void codeIs(WarabandiDesk x, String call, long code, Call run) {
         Check.due(call, run.on(x), code);
     }
@@ -86,117 +90,117 @@ public final class BoundsRefusedTest {
     private static void noneSuch() {
         Check.says(PART, "Refused calls answer by a code and change nothing: -2 there is none such (FIELD, REACH, what)");
         for (int f : new int[] {-1, 3, 8, MIN, MAX}) {
-            refused(BoundsRefusedTest::busy, "move(" + f + ", 0)", -2, x -> x.move(f, 0));
-            refused(BoundsRefusedTest::busy, "swap(0, " + f + ", 0)", -2, x -> x.swap(0, f, 0));
-            refused(BoundsRefusedTest::busy, "swap(0, 0, " + f + ")", -2, x -> x.swap(0, 0, f));
-            refused(BoundsRefusedTest::busy, "lend(0, " + f + ", 0, 1)", -2, x -> x.lend(0, f, 0, 1));
-            refused(BoundsRefusedTest::busy, "lend(0, 0, " + f + ", 1)", -2, x -> x.lend(0, 0, f, 1));
-            refused(BoundsRefusedTest::busy, "land(" + f + ", 1)", -2, x -> x.land(f, 1));
-            refused(BoundsRefusedTest::busy, "field(" + f + ", 0)", -2, x -> x.field(f, 0));
-            refused(BoundsRefusedTest::busy, "name(" + f + ", 0)", -2, x -> x.name(f, 0));
-            refused(BoundsRefusedTest::busy, "inTurn(0, " + f + ", 0)", -2, x -> x.inTurn(0, f, 0));
-            refused(BoundsRefusedTest::busy, "weight(" + f + ")", -2, x -> x.weight(f));
-            refused(BoundsRefusedTest::busy, "water(0, " + f + ")", -2, x -> x.water(0, f));
-            refused(BoundsRefusedTest::busy, "when(" + f + ", 0)", -2, x -> x.when(f, 0));
-            refused(BoundsRefusedTest::busy, "depth(0, " + f + ")", -2, x -> x.depth(0, f));
-            refused(BoundsRefusedTest::busy, "soil(0, " + f + ")", -2, x -> x.soil(0, f));
-            refused(BoundsRefusedTest::busy, "dry(0, " + f + ", 0)", -2, x -> x.dry(0, f, 0));
-            refused(BoundsRefusedTest::busy, "partners(0, " + f + ")", -2, x -> x.partners(0, f));
-            refused(BoundsRefusedTest::busy, "nights(0, 0, " + f + ")", -2, x -> x.nights(0, 0, f));
-            refused(BoundsRefusedTest::busy, "balance(0, " + f + ", 0)", -2, x -> x.balance(0, f, 0));
-            refused(BoundsRefusedTest::busy, "balance(0, 0, " + f + ")", -2, x -> x.balance(0, 0, f));
+            busyRefuses("move(" + f + ", 0)", -2, x -> x.move(f, 0));
+            busyRefuses("swap(0, " + f + ", 0)", -2, x -> x.swap(0, f, 0));
+            busyRefuses("swap(0, 0, " + f + ")", -2, x -> x.swap(0, 0, f));
+            busyRefuses("lend(0, " + f + ", 0, 1)", -2, x -> x.lend(0, f, 0, 1));
+            busyRefuses("lend(0, 0, " + f + ", 1)", -2, x -> x.lend(0, 0, f, 1));
+            busyRefuses("land(" + f + ", 1)", -2, x -> x.land(f, 1));
+            busyRefuses("field(" + f + ", 0)", -2, x -> x.field(f, 0));
+            busyRefuses("name(" + f + ", 0)", -2, x -> x.name(f, 0));
+            busyRefuses("inTurn(0, " + f + ", 0)", -2, x -> x.inTurn(0, f, 0));
+            busyRefuses("weight(" + f + ")", -2, x -> x.weight(f));
+            busyRefuses("water(0, " + f + ")", -2, x -> x.water(0, f));
+            busyRefuses("when(" + f + ", 0)", -2, x -> x.when(f, 0));
+            busyRefuses("depth(0, " + f + ")", -2, x -> x.depth(0, f));
+            busyRefuses("soil(0, " + f + ")", -2, x -> x.soil(0, f));
+            busyRefuses("dry(0, " + f + ", 0)", -2, x -> x.dry(0, f, 0));
+            busyRefuses("partners(0, " + f + ")", -2, x -> x.partners(0, f));
+            busyRefuses("nights(0, 0, " + f + ")", -2, x -> x.nights(0, 0, f));
+            busyRefuses("balance(0, " + f + ", 0)", -2, x -> x.balance(0, f, 0));
+            busyRefuses("balance(0, 0, " + f + ")", -2, x -> x.balance(0, 0, f));
         }
         for (int f : new int[] {-2, 3, 8, MIN, MAX}) {
-            refused(BoundsRefusedTest::busy, "matched(0, " + f + ")", -2, x -> x.matched(0, f));
+            busyRefuses("matched(0, " + f + ")", -2, x -> x.matched(0, f));
         }
         for (int r : new int[] {-1, 2, 10, MIN, MAX}) {
-            refused(BoundsRefusedTest::busy, "line(" + r + ")", -2, x -> x.line(r));
-            refused(BoundsRefusedTest::busy, "reach(" + r + ", 0)", -2, x -> x.reach(r, 0));
+            busyRefuses("line(" + r + ")", -2, x -> x.line(r));
+            busyRefuses("reach(" + r + ", 0)", -2, x -> x.reach(r, 0));
         }
         for (int what : new int[] {-1, 10, MIN, MAX}) {
-            refused(BoundsRefusedTest::busy, "field(0, " + what + ")", -2, x -> x.field(0, what));
-            refused(BoundsRefusedTest::busy, "reach(0, " + what + ")", -2, x -> x.reach(0, what));
-            refused(BoundsRefusedTest::busy, "setting(" + what + ")", -2, x -> x.setting(what));
-            refused(BoundsRefusedTest::busy, "inTurn(0, 0, " + what + ")", -2, x -> x.inTurn(0, 0, what));
-            refused(BoundsRefusedTest::busy, "at(77, " + what + ")", -2, x -> x.at(77, what));
-            refused(BoundsRefusedTest::busy, "dry(0, 0, " + what + ")", -2, x -> x.dry(0, 0, what));
-            refused(BoundsRefusedTest::busy, "even(1, " + what + ")", -2, x -> x.even(1, what));
+            busyRefuses("field(0, " + what + ")", -2, x -> x.field(0, what));
+            busyRefuses("reach(0, " + what + ")", -2, x -> x.reach(0, what));
+            busyRefuses("setting(" + what + ")", -2, x -> x.setting(what));
+            busyRefuses("inTurn(0, 0, " + what + ")", -2, x -> x.inTurn(0, 0, what));
+            busyRefuses("at(77, " + what + ")", -2, x -> x.at(77, what));
+            busyRefuses("dry(0, 0, " + what + ")", -2, x -> x.dry(0, 0, what));
+            busyRefuses("even(1, " + what + ")", -2, x -> x.even(1, what));
         }
     }
 
     private static void badNumbers() {
         Check.says(PART, "-3 a number can't be");
         for (int w : new int[] {-1, 52, MIN, MAX}) {
-            refused(BoundsRefusedTest::busy, "swap(" + w + ", 0, 1)", -3, x -> x.swap(w, 0, 1));
-            refused(BoundsRefusedTest::busy, "lend(" + w + ", 0, 1, 1)", -3, x -> x.lend(w, 0, 1, 1));
-            refused(BoundsRefusedTest::busy, "shut(" + w + ", 0, 1)", -3, x -> x.shut(w, 0, 1));
+            busyRefuses("swap(" + w + ", 0, 1)", -3, x -> x.swap(w, 0, 1));
+            busyRefuses("lend(" + w + ", 0, 1, 1)", -3, x -> x.lend(w, 0, 1, 1));
+            busyRefuses("shut(" + w + ", 0, 1)", -3, x -> x.shut(w, 0, 1));
         }
         for (int n : new int[] {-1, 3, MIN, MAX}) {
-            refused(BoundsRefusedTest::busy, "move(0, " + n + ")", -3, x -> x.move(0, n));
-            refused(BoundsRefusedTest::busy, "mode(" + n + ")", -3, x -> x.mode(n));
+            busyRefuses("move(0, " + n + ")", -3, x -> x.move(0, n));
+            busyRefuses("mode(" + n + ")", -3, x -> x.mode(n));
         }
         for (int n : new int[] {-1, 0, 1000, MIN, MAX}) {
-            refused(BoundsRefusedTest::busy, "lend(0, 0, 1, " + n + ")", -3, x -> x.lend(0, 0, 1, n));
-            refused(BoundsRefusedTest::busy, "flow(" + n + ")", -3, x -> x.flow(n));
-            refused(BoundsRefusedTest::busy, "land(0, " + n + ")", -3, x -> x.land(0, n));
-            refused(BoundsRefusedTest::busy, "turn(" + n + ", 0)", -3, x -> x.turn(n, 0));
+            busyRefuses("lend(0, 0, 1, " + n + ")", -3, x -> x.lend(0, 0, 1, n));
+            busyRefuses("flow(" + n + ")", -3, x -> x.flow(n));
+            busyRefuses("land(0, " + n + ")", -3, x -> x.land(0, n));
+            busyRefuses("turn(" + n + ", 0)", -3, x -> x.turn(n, 0));
         }
         for (int n : new int[] {-1, 8, MIN, MAX}) {
-            refused(BoundsRefusedTest::busy, "turn(1, " + n + ")", -3, x -> x.turn(1, n));
+            busyRefuses("turn(1, " + n + ")", -3, x -> x.turn(1, n));
         }
-        refused(BoundsRefusedTest::busy, "turn(53, 0)", -3, x -> x.turn(53, 0));
+        busyRefuses("turn(53, 0)", -3, x -> x.turn(53, 0));
         for (int n : new int[] {-1, 10080, MIN, MAX}) {
-            refused(BoundsRefusedTest::busy, "shut(0, " + n + ", 10080)", -3, x -> x.shut(0, n, 10080));
+            busyRefuses("shut(0, " + n + ", 10080)", -3, x -> x.shut(0, n, 10080));
         }
         for (int n : new int[] {-1, 0, 4, 5, 10081, MIN, MAX}) {
-            refused(BoundsRefusedTest::busy, "shut(0, 5, " + n + ")", -3, x -> x.shut(0, 5, n));
+            busyRefuses("shut(0, 5, " + n + ")", -3, x -> x.shut(0, 5, n));
         }
         for (int n : new int[] {-1, 21, MIN, MAX}) {
-            refused(BoundsRefusedTest::busy, "tell(" + n + ")", -3, x -> x.tell(n));
+            busyRefuses("tell(" + n + ")", -3, x -> x.tell(n));
         }
     }
 
     private static void badNumbersAsked() {
         Check.says(PART, "-3 a number can't be");
         for (int w : new int[] {-1, 52, MIN, MAX}) {
-            refused(BoundsRefusedTest::busy, "roster(" + w + ", 0)", -3, x -> x.roster(w, 0));
-            refused(BoundsRefusedTest::busy, "inTurn(" + w + ", 0, 0)", -3, x -> x.inTurn(w, 0, 0));
-            refused(BoundsRefusedTest::busy, "net(" + w + ")", -3, x -> x.net(w));
-            refused(BoundsRefusedTest::busy, "fails(" + w + ")", -3, x -> x.fails(w));
-            refused(BoundsRefusedTest::busy, "water(" + w + ", 0)", -3, x -> x.water(w, 0));
-            refused(BoundsRefusedTest::busy, "all(" + w + ")", -3, x -> x.all(w));
-            refused(BoundsRefusedTest::busy, "depth(" + w + ", 0)", -3, x -> x.depth(w, 0));
-            refused(BoundsRefusedTest::busy, "first(" + w + ", true)", -3, x -> x.first(w, true));
-            refused(BoundsRefusedTest::busy, "soil(" + w + ", 0)", -3, x -> x.soil(w, 0));
-            refused(BoundsRefusedTest::busy, "dry(" + w + ", 0, 0)", -3, x -> x.dry(w, 0, 0));
-            refused(BoundsRefusedTest::busy, "tail(" + w + ")", -3, x -> x.tail(w));
-            refused(BoundsRefusedTest::busy, "leastFlow(" + w + ")", -3, x -> x.leastFlow(w));
-            refused(BoundsRefusedTest::busy, "lining(" + w + ")", -3, x -> x.lining(w));
-            refused(BoundsRefusedTest::busy, "even(" + (w == -1 ? 0 : w == 52 ? 53 : w) + ", 0)", -3,
+            busyRefuses("roster(" + w + ", 0)", -3, x -> x.roster(w, 0));
+            busyRefuses("inTurn(" + w + ", 0, 0)", -3, x -> x.inTurn(w, 0, 0));
+            busyRefuses("net(" + w + ")", -3, x -> x.net(w));
+            busyRefuses("fails(" + w + ")", -3, x -> x.fails(w));
+            busyRefuses("water(" + w + ", 0)", -3, x -> x.water(w, 0));
+            busyRefuses("all(" + w + ")", -3, x -> x.all(w));
+            busyRefuses("depth(" + w + ", 0)", -3, x -> x.depth(w, 0));
+            busyRefuses("first(" + w + ", true)", -3, x -> x.first(w, true));
+            busyRefuses("soil(" + w + ", 0)", -3, x -> x.soil(w, 0));
+            busyRefuses("dry(" + w + ", 0, 0)", -3, x -> x.dry(w, 0, 0));
+            busyRefuses("tail(" + w + ")", -3, x -> x.tail(w));
+            busyRefuses("leastFlow(" + w + ")", -3, x -> x.leastFlow(w));
+            busyRefuses("lining(" + w + ")", -3, x -> x.lining(w));
+            busyRefuses("even(" + (w == -1 ? 0 : w == 52 ? 53 : w) + ", 0)", -3,
                     x -> x.even(w == -1 ? 0 : w == 52 ? 53 : w, 0));
-            refused(BoundsRefusedTest::busy, "partners(" + w + ", 0)", -3, x -> x.partners(w, 0));
-            refused(BoundsRefusedTest::busy, "matched(" + w + ", 0)", -3, x -> x.matched(w, 0));
-            refused(BoundsRefusedTest::busy, "nights(" + w + ", 51, 0)", -3, x -> x.nights(w, 51, 0));
-            refused(BoundsRefusedTest::busy, "nights(0, " + w + ", 0)", -3, x -> x.nights(0, w, 0));
-            refused(BoundsRefusedTest::busy, "fairest(" + w + ")", -3, x -> x.fairest(w));
-            refused(BoundsRefusedTest::busy, "balance(" + w + ", 0, 1)", -3, x -> x.balance(w, 0, 1));
-            refused(BoundsRefusedTest::busy, "settles(" + w + ")", -3, x -> x.settles(w));
+            busyRefuses("partners(" + w + ", 0)", -3, x -> x.partners(w, 0));
+            busyRefuses("matched(" + w + ", 0)", -3, x -> x.matched(w, 0));
+            busyRefuses("nights(" + w + ", 51, 0)", -3, x -> x.nights(w, 51, 0));
+            busyRefuses("nights(0, " + w + ", 0)", -3, x -> x.nights(0, w, 0));
+            busyRefuses("fairest(" + w + ")", -3, x -> x.fairest(w));
+            busyRefuses("balance(" + w + ", 0, 1)", -3, x -> x.balance(w, 0, 1));
+            busyRefuses("settles(" + w + ")", -3, x -> x.settles(w));
         }
         for (int n : new int[] {-1, MIN}) {
-            refused(BoundsRefusedTest::busy, "roster(0, " + n + ")", -3, x -> x.roster(0, n));
-            refused(BoundsRefusedTest::busy, "isVoid(" + n + ")", -3, x -> x.isVoid(n));
-            refused(BoundsRefusedTest::busy, "at(" + n + ", 0)", -3, x -> x.at(n, 0));
-            refused(BoundsRefusedTest::busy, "when(0, " + n + ")", -3, x -> x.when(0, n));
+            busyRefuses("roster(0, " + n + ")", -3, x -> x.roster(0, n));
+            busyRefuses("isVoid(" + n + ")", -3, x -> x.isVoid(n));
+            busyRefuses("at(" + n + ", 0)", -3, x -> x.at(n, 0));
+            busyRefuses("when(0, " + n + ")", -3, x -> x.when(0, n));
         }
         for (int n : new int[] {-2, MIN}) {
-            refused(BoundsRefusedTest::busy, "name(0, " + n + ")", -3, x -> x.name(0, n));
-            refused(BoundsRefusedTest::busy, "order(" + n + ")", -3, x -> x.order(n));
+            busyRefuses("name(0, " + n + ")", -3, x -> x.name(0, n));
+            busyRefuses("order(" + n + ")", -3, x -> x.order(n));
         }
-        refused(BoundsRefusedTest::busy, "nights(5, 4, 0)", -3, x -> x.nights(5, 4, 0));
-        refused(BoundsRefusedTest::busy, "soaked(0, 0, true)", -3, x -> x.soaked(0, 0, true));
-        refused(BoundsRefusedTest::busy, "soaked(1000, 1, true)", -3, x -> x.soaked(1000, 1, true));
-        refused(BoundsRefusedTest::busy, "soaked(9, 10, true)", -3, x -> x.soaked(9, 10, true));
-        refused(BoundsRefusedTest::busy, "soaked(9, -1, true)", -3, x -> x.soaked(9, -1, true));
+        busyRefuses("nights(5, 4, 0)", -3, x -> x.nights(5, 4, 0));
+        busyRefuses("soaked(0, 0, true)", -3, x -> x.soaked(0, 0, true));
+        busyRefuses("soaked(1000, 1, true)", -3, x -> x.soaked(1000, 1, true));
+        busyRefuses("soaked(9, 10, true)", -3, x -> x.soaked(9, 10, true));
+        busyRefuses("soaked(9, -1, true)", -3, x -> x.soaked(9, -1, true));
     }
 
     private static void tooMany() {

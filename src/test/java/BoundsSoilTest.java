@@ -68,8 +68,10 @@ public final class BoundsSoilTest {
         Check.due("soil(51, 0) by USE 404", x.soil(51, 0), 596 - 51);
         x = Check.desk(ALONE + "flow 4;crop a 1000 402;");
         Check.due("soil(51, 0) by USE 402", x.soil(51, 0), 598);
-        x = Check.desk("reach 0 0 0;field a 0 1;flow 999;crop a 9999 0;");
+        x = Check.desk("reach 0 0 0;field a 0 1;flow 999;crop a 9999 0;field b 0 1;crop b 9999 9999;");
         Check.due("soil(51, 0) of a small field by a great FLOW", x.soil(51, 0), 9999);
+        Check.due("soil(51, 1) of a small field by a great FLOW", x.soil(51, 1), 0);
+        Check.due("dry(51, 1, 0) of a small field by a great FLOW", x.dry(51, 1, 0), 0);
         Check.due("soil(51, 0) without STORE", Check.desk(ALONE).soil(51, 0), 0);
         Check.due("dry(51, 0, 0) without STORE and USE", Check.desk(ALONE).dry(51, 0, 0), 0);
     }
@@ -93,6 +95,10 @@ public final class BoundsSoilTest {
             Check.due("soil(" + week + ", 0)", x.soil(week, 0), soils[week]);
             Check.due("dry(" + week + ", 0, 0)", x.dry(week, 0, 0), times[week]);
         }
+        // nothing comes in WEEK 1, and then one too few: DRY from then on, from SOIL 0 each time
+        x = Check.desk(ALONE + "flow 4;crop a 500 404;shut 1 0 10080;");
+        Check.due("soil(0, 0)", x.soil(0, 0), 96);
+        Check.due("dry(51, 0, 0)", x.dry(51, 0, 0), 51);
         // STORE 0, so that nothing is kept
         x = Check.desk(ALONE + "crop a 0 1;");
         Check.due("dry(51, 0, 0) without STORE", x.dry(51, 0, 0), 52);
@@ -180,6 +186,9 @@ public final class BoundsSoilTest {
         // minutes 3528, 2016, 3528, 1008: only by two couples each one has two nights of five hours at most
         WarabandiDesk x = Check.desk("reach 0 0 0;field a 0 7;field b 0 4;field c 0 7;field d 0 2;night 4 9;");
         matchedAre(x, 0, 600, 1, 0, 3, 2);
+        // minutes 630, 1260, 2520, 5670: the first with the third one, the second with the fourth one
+        x = Check.desk("reach 0 0 0;field a 0 1;field b 0 2;field c 0 4;field d 0 9;night 17 21;");
+        matchedAre(x, 0, 900, 2, 3, 0, 1);
         // eight, of which the long one is first: seven first hours, else six
         x = Check.desk("reach 0 0 0;field a 0 93;field b 0 1;field c 0 1;field d 0 1;field e 0 1;field f 0 1;field g 0 1;"
                 + "field h 0 1;night 0 1;");

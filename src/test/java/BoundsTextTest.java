@@ -355,7 +355,12 @@ public final class BoundsTextTest {
             wrong(1, FARMS + "swap 0 a ^" + word + ";");
             wrong(1, FARMS + "lend 0 ^" + word + " a 5;");
             wrong(1, FARMS + "lend 0 a ^" + word + " 5;");
+            // one letter more, or another one at either end, makes it a NAME, and no word of a LINE
             fine(REACH + "field " + word + "s 0 5;", 2);
+            fine(REACH + "field x" + word.substring(1) + " 0 5;", 2);
+            fine(REACH + "field " + word.substring(0, word.length() - 1) + "x 0 5;", 2);
+            wrong(1, "^x" + word.substring(1) + " 1 1 1;");
+            wrong(1, "^" + word.substring(0, word.length() - 1) + "x 1 1 1;");
         }
         fine(REACH + "field abcdefgh 0 5;", 2);
         wrong(1, REACH + "field ^abcdefghi 0 5;");

@@ -422,6 +422,13 @@ public final class BoundsWeekTest {
         turnsAre(x, 0, 9, 0, 1);
         turnsAre(x, 1, 9, 1, 0);
         turnsAre(x, 2, 9, 5040, 5040);
+        // one within the other, overlapping, told from the last one on
+        turnsAre(Check.desk(HALVES + "shut 0 100 500;shut 0 200 300;"), 0, 9, 400, 0);
+        turnsAre(Check.desk(HALVES + "shut 0 200 300;shut 0 100 500;"), 0, 9, 400, 0);
+        turnsAre(Check.desk(HALVES + "shut 0 200 300;shut 0 250 400;"), 0, 9, 200, 0);
+        turnsAre(Check.desk(HALVES + "shut 0 700 800;shut 0 200 300;shut 0 100 500;"), 0, 9, 500, 0);
+        turnsAre(Check.desk(HALVES + "shut 0 900 901;shut 0 700 800;shut 0 500 600;shut 0 300 400;shut 0 100 200;shut 0 0 1;"),
+                0, 9, 402, 0);
         // told twice, overlapping, touching
         x = Check.desk(HALVES + "shut 0 10 20;shut 0 10 20;shut 0 15 25;shut 0 25 30;shut 0 5 10;shut 0 12 13;");
         turnsAre(x, 0, 9, 25, 0);
